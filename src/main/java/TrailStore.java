@@ -185,7 +185,7 @@ public final class TrailStore {
         if (store.depth == 0) {
             return -2;
         }
-        told.only(store.closeTo(store.depth - 1));
+        closeAndTell(store.depth - 1);
         return store.depth;
     }
 
@@ -194,8 +194,13 @@ public final class TrailStore {
             return NONE;
         }
         int closed = store.depth - n;
-        told.only(store.closeTo(n));
+        closeAndTell(n);
         return closed;
+    }
+
+    private void closeAndTell(int n) {
+        told.only(n < store.depth ? store.now.otherThings(store.levels[n].opened) : 0);
+        store.closeTo(n);
     }
 
     public int commits() {
@@ -800,6 +805,11 @@ public final class TrailStore {
             return p >= 0 && p < size ? signs[p] : NONE;
         }
 
+        int cellAt(int p) {
+            int i = signAt(p) - 'A';
+            return isCell(i) ? i : NONE;
+        }
+
         int variableAt(int p) {
             int x = signAt(p) - 'v';
             return isVariable(x) ? x : NONE;
@@ -973,7 +983,7 @@ public final class TrailStore {
         }
 
         void put(int thing) {
-            if (!has(thing) && size < DIFFERENT_THINGS) {
+            if ((marks >>> thing & 1) == 0 && size < DIFFERENT_THINGS) {
                 passed[size] = thing;
                 size++;
                 marks |= 1 << thing;
@@ -1163,16 +1173,11 @@ public final class TrailStore {
             return depth;
         }
 
-        /** How many things are otherwise then. */
-        int closeTo(int n) {
-            if (n < 0 || n >= depth) {
-                return 0;
+        void closeTo(int n) {
+            if (n >= 0 && n < depth) {
+                now.become(levels[n].opened);
+                depth = n;
             }
-            Things opened = levels[n].opened;
-            int others = now.otherThings(opened);
-            now.become(opened);
-            depth = n;
-            return others;
         }
 
         /** How many things of the committed level's trail were on the one below. */
@@ -1234,9 +1239,14 @@ public final class TrailStore {
             // each pass but the last takes a value at least
             for (int pass = 0; pass <= VARIABLES * VALUES; pass++) {
                 for (int i = 0; i < things.constraints; i++) {
-                    int p = PARTS * i;
-                    if ((set >>> i & 1) == 1 && !bear(parts[p], parts[p + 1], parts[p + 2], parts[p + 3])) {
-                        return false;
+                    if ((set >>> i & 1) == 1) {
+                        int p = PARTS * i;
+                        boolean borne = parts[p] == ALL_DIFFERENT
+                                ? bearAllDifferent(parts[p + 1])
+                                : bearTwo(parts[p], parts[p + 1], parts[p + 2], parts[p + 3]);
+                        if (!borne) {
+                            return false;
+                        }
                     }
                 }
                 int behind = valuesLeft();
@@ -1248,38 +1258,21 @@ public final class TrailStore {
             return true;
         }
 
-        private boolean bear(int sort, int x, int y, int d) {
-            switch (sort) {
-                case LESS:
-                    return bearLess(x, y, d);
-                case EQUAL:
-                    left[x] &= moved(left[y], d);
-                    left[y] &= moved(left[x], -d);
-                    return left[y] != 0;
-                case UNEQUAL:
-                    return bearUnequal(x, y, d);
-                default:
-                    return bearAllDifferent(x);
-            }
-        }
-
-        private boolean bearLess(int x, int y, int d) {
-            int greatest = 31 - Integer.numberOfLeadingZeros(left[y]);
-            left[x] &= below(greatest + d);
-            if (left[x] == 0) {
-                return false;
-            }
-            int least = Integer.numberOfTrailingZeros(left[x]);
-            left[y] &= ~below(least - d + 1);
-            return left[y] != 0;
-        }
-
-        private boolean bearUnequal(int x, int y, int d) {
-            if (Integer.bitCount(left[y]) == 1) {
-                left[x] &= ~moved(left[y], d);
-            }
-            if (Integer.bitCount(left[x]) == 1) {
-                left[y] &= ~moved(left[x], -d);
+        private boolean bearTwo(int sort, int x, int y, int d) {
+            if (sort == LESS) {
+                left[x] &= below(31 - Integer.numberOfLeadingZeros(left[y]) + d);
+                left[y] &= ~below(Integer.numberOfTrailingZeros(left[x]) - d + 1);
+            } else if (sort == EQUAL) {
+                left[x] &= moved(left[y], d);
+                left[y] &= moved(left[x], -d);
+            } else {
+                // two values or more leave each value of the other one that it can be with
+                if (Integer.bitCount(left[y]) == 1) {
+                    left[x] &= ~moved(left[y], d);
+                }
+                if (Integer.bitCount(left[x]) == 1) {
+                    left[y] &= ~moved(left[x], -d);
+                }
             }
             return left[x] != 0 && left[y] != 0;
         }
@@ -1643,15 +1636,22 @@ public final class TrailStore {
     /** Reads a RUN from the text, and does it. */
     private static final class Runner {
         private static final int MOST_NESTED = 4;
-        private static final int CELL_ACT = 0;
-        private static final int VARIABLE_ACT = 1;
-        private static final int PUT = 2;
-        private static final int DROP = 3;
-        private static final int SPREAD = 4;
-        private static final int ASK_CELL = 5;
-        private static final int ASK_VALUE = 6;
-        private static final int ASK_KEY = 7;
-        private static final int FORMS = 8;
+        private static final int SET = 0;
+        private static final int ADD = 1;
+        private static final int SUBTRACT = 2;
+        private static final int TAKE = 3;
+        private static final int FIX = 4;
+        private static final int LIMIT_HIGH = 5;
+        private static final int LIMIT_LOW = 6;
+        private static final int PUT = 7;
+        private static final int DROP = 8;
+        private static final int SPREAD = 9;
+        private static final int ASK_BELOW = 10;
+        private static final int ASK_EQUAL = 11;
+        private static final int ASK_ABOVE = 12;
+        private static final int ASK_VALUE = 13;
+        private static final int ASK_KEY = 14;
+        private static final int ACTS = 15;
 
         private final Store store;
         private final Text text;
@@ -1668,21 +1668,35 @@ public final class TrailStore {
             this.spreader = spreader;
         }
 
-        /** The sorts of signs of each act; what a letter here stands for, mayStand says. */
+        /** The signs of each act; for which ones A, v, d and e stand, mayStand says. */
         private static String form(int act) {
             switch (act) {
-                case CELL_ACT:
-                    return "Aodd";
-                case VARIABLE_ACT:
-                    return "vme";
+                case SET:
+                    return "A=dd";
+                case ADD:
+                    return "A+dd";
+                case SUBTRACT:
+                    return "A-dd";
+                case TAKE:
+                    return "v-e";
+                case FIX:
+                    return "v=e";
+                case LIMIT_HIGH:
+                    return "v<e";
+                case LIMIT_LOW:
+                    return "v>e";
                 case PUT:
                     return "kd=dd";
                 case DROP:
                     return "kd-";
                 case SPREAD:
                     return "p";
-                case ASK_CELL:
-                    return "?Ardd";
+                case ASK_BELOW:
+                    return "?A<dd";
+                case ASK_EQUAL:
+                    return "?A=dd";
+                case ASK_ABOVE:
+                    return "?A>dd";
                 case ASK_VALUE:
                     return "?ve";
                 default:
@@ -1700,12 +1714,6 @@ public final class TrailStore {
                     return sign >= '0' && sign <= '9';
                 case 'e':
                     return sign >= '0' && sign <= '5';
-                case 'o':
-                    return sign == '=' || sign == '+' || sign == '-';
-                case 'm':
-                    return sign == '=' || sign == '-' || sign == '<' || sign == '>';
-                case 'r':
-                    return sign == '=' || sign == '<' || sign == '>';
                 default:
                     return sign == wanted;
             }
@@ -1740,7 +1748,7 @@ public final class TrailStore {
         }
 
         private int actAt(int p) {
-            for (int act = 0; act < FORMS; act++) {
+            for (int act = 0; act < ACTS; act++) {
                 if (signsOf(act, p) == form(act).length()) {
                     return act;
                 }
@@ -1751,7 +1759,7 @@ public final class TrailStore {
         /** No act is there: the first sign that goes on with none of them. */
         private int faultIn(int p) {
             int most = 0;
-            for (int act = 0; act < FORMS; act++) {
+            for (int act = 0; act < ACTS; act++) {
                 most = Math.max(most, signsOf(act, p));
             }
             return p + most;
@@ -1800,7 +1808,7 @@ public final class TrailStore {
                     return true;
                 }
                 int begin = at;
-                boolean accepted = isOpener(sign) ? doBlock(nested + 1) : doAct();
+                boolean accepted = isOpener(sign) ? doBlock(nested + 1) : doAct(actAt(at));
                 if (!accepted) {
                     at = begin;
                     return false;
@@ -1849,73 +1857,66 @@ public final class TrailStore {
             return text.size;
         }
 
-        private boolean doAct() {
-            int act = actAt(at);
-            if (act == NONE || !accepts(act, at)) {
-                return false;
-            }
-            at += form(act).length();
-            done++;
-            return true;
-        }
-
-        private boolean accepts(int act, int p) {
+        private boolean doAct(int act) {
+            boolean accepted;
             switch (act) {
-                case CELL_ACT:
-                    return actOnCell(text.signAt(p) - 'A', text.signAt(p + 1), text.twoDigitsAt(p + 2)) >= 0;
-                case VARIABLE_ACT:
-                    return actOnVariable(text.variableAt(p), text.signAt(p + 1), text.digitAt(p + 2)) >= 0;
+                case SET:
+                    accepted = store.setCell(text.cellAt(at), text.twoDigitsAt(at + 2)) >= 0;
+                    break;
+                case ADD:
+                    accepted = store.addToCell(text.cellAt(at), text.twoDigitsAt(at + 2)) >= 0;
+                    break;
+                case SUBTRACT:
+                    accepted = store.addToCell(text.cellAt(at), -text.twoDigitsAt(at + 2)) >= 0;
+                    break;
+                case TAKE:
+                    accepted = store.takeValue(text.variableAt(at), text.digitAt(at + 2)) >= 0;
+                    break;
+                case FIX:
+                    accepted = store.fixVariable(text.variableAt(at), text.digitAt(at + 2)) >= 0;
+                    break;
+                case LIMIT_HIGH:
+                    accepted = store.limitVariable(text.variableAt(at), 0, text.digitAt(at + 2)) >= 0;
+                    break;
+                case LIMIT_LOW:
+                    accepted = store.limitVariable(text.variableAt(at), text.digitAt(at + 2), VALUES - 1) >= 0;
+                    break;
                 case PUT:
-                    return store.putKey(text.digitAt(p + 1), text.twoDigitsAt(p + 3)) >= 0;
+                    accepted = store.putKey(text.digitAt(at + 1), text.twoDigitsAt(at + 3)) >= 0;
+                    break;
                 case DROP:
-                    return store.dropKey(text.digitAt(p + 1)) >= 0;
+                    accepted = store.dropKey(text.digitAt(at + 1)) >= 0;
+                    break;
                 case SPREAD:
-                    return store.spreadAll(spreader) >= 0;
-                case ASK_CELL:
-                    return isCellSo(text.signAt(p + 1) - 'A', text.signAt(p + 2), text.twoDigitsAt(p + 3));
+                    accepted = store.spreadAll(spreader) >= 0;
+                    break;
+                default:
+                    accepted = isSo(act);
+                    break;
+            }
+            if (accepted) {
+                at += form(act).length();
+                done++;
+            }
+            return accepted;
+        }
+
+        private boolean isSo(int act) {
+            int i = text.cellAt(at + 1);
+            int number = isCell(i) ? store.now.numbers[i] : 0;
+            switch (act) {
+                case ASK_BELOW:
+                    return number < text.twoDigitsAt(at + 3);
+                case ASK_EQUAL:
+                    return number == text.twoDigitsAt(at + 3);
+                case ASK_ABOVE:
+                    return number > text.twoDigitsAt(at + 3);
                 case ASK_VALUE:
-                    return store.now.hasValue(text.variableAt(p + 1), text.digitAt(p + 2));
+                    return store.now.hasValue(text.variableAt(at + 1), text.digitAt(at + 2));
+                case ASK_KEY:
+                    return store.now.placeOf(text.digitAt(at + 2)) != NONE;
                 default:
-                    return store.now.placeOf(text.digitAt(p + 2)) != NONE;
-            }
-        }
-
-        private int actOnCell(int i, int sign, int n) {
-            switch (sign) {
-                case '=':
-                    return store.setCell(i, n);
-                case '+':
-                    return store.addToCell(i, n);
-                default:
-                    return store.addToCell(i, -n);
-            }
-        }
-
-        private int actOnVariable(int x, int sign, int v) {
-            switch (sign) {
-                case '-':
-                    return store.takeValue(x, v);
-                case '=':
-                    return store.fixVariable(x, v);
-                case '<':
-                    return store.limitVariable(x, 0, v);
-                default:
-                    return store.limitVariable(x, v, VALUES - 1);
-            }
-        }
-
-        private boolean isCellSo(int i, int sign, int n) {
-            if (!isCell(i)) {
-                return false;
-            }
-            int number = store.now.numbers[i];
-            switch (sign) {
-                case '<':
-                    return number < n;
-                case '=':
-                    return number == n;
-                default:
-                    return number > n;
+                    return false;
             }
         }
     }

@@ -289,6 +289,12 @@ public final class PromiseTest {
         due("puts of -1", -1, s.puts(-1, 0));
         s.drops(9);
         due("puts behind all", 7, s.puts(9, 1));
+        s.opens();
+        due("the same number", 7, s.puts(9, 1));
+        due("changes nothing", 0, s.trail(1));
+        due("another number", 7, s.puts(9, 2));
+        due("changes the key", 1, s.trail(1));
+        dueRow(s, "changes the key", 29);
     }
 
     private static void promise16() {
@@ -323,6 +329,8 @@ public final class PromiseTest {
             due("the text is emptied", 0, s.count(8));
         }
         due("too many", -100, posts(s, "v<w,v<w,v<w,v<w,v<w"));
+        due("as many as a text can tell", -100, posts(s, "v<w,".repeat(20).substring(0, 79)));
+        due("as many, with a fault at its end", -1 - 79, posts(s, "v<w,".repeat(20).substring(0, 79) + "v"));
         due("too many, with a fault", -1 - 20, posts(s, "v<w,v<w,v<w,v<w,v<w,"));
         due("count(3)", 4, s.count(3));
         due("just as many", 4, posts(s, "v<w,v<w,v<w,v<w"));
@@ -380,6 +388,30 @@ public final class PromiseTest {
         u.limits(1, 0, 1);
         u.limits(2, 0, 1);
         due("three can't have two", -2, u.spreads());
+
+        TrailStore w = with("!vwxyz");
+        limitAll(w, 0, 4);
+        due("five of five", 0, w.spreads());
+        w.removes(0, 0);
+        w.removes(1, 0);
+        w.removes(2, 0);
+        w.removes(3, 0);
+        due("none but one can have it", 4, w.spreads());
+        due("values", 1, w.values(4));
+        w.removes(0, 1);
+        w.removes(1, 1);
+        w.removes(2, 1);
+        w.removes(3, 1);
+        due("four can't have three", -2, w.spreads());
+
+        TrailStore h = with("!vwx");
+        h.limits(1, 0, 1);
+        h.limits(2, 0, 1);
+        due("two take two from the first", 2, h.spreads());
+        due("values", 60, h.values(0));
+        h.renews(0);
+        h.limits(0, 0, 1);
+        due("two leave none to the first", -2, h.spreads());
 
         TrailStore e = with("v=w+4,x#y-2");
         due("equal", 8, e.spreads());
@@ -482,6 +514,10 @@ public final class PromiseTest {
         due("values", 48, s.values(3));
         due("the text is emptied", 0, s.count(8));
         due("asks", 5, run(s, "?A<13?A>11?w3k1=00?k1"));
+        due("what changes nothing", 6, run(s, "w=3w<3w>3k1=00B+00B=07"));
+        dueRow(s, "what changes nothing", 0);
+        due("the last variable and value", 4, run(s, "z-0?z5z>5?z5"));
+        due("numbers below 0", 2, run(s, "F=00[F-99F-99F-99F-99F-99F-99F-99F-99F-99F-99]F+00"));
         String[] refused = {"A=00?A<00", "?A>12", "?A=11", "?w2", "?k2", "w-3", "w=2", "w<2", "w>4", "k7-", "B=05F=99F+99F+99F+99"
             + "F+99F+99F+99F+99F+99F+99F+99", "C-99C-99C-99C-99C-99C-99C-99C-99C-99C-99", "A=01[?w2]", "{?w2|?k2}", "((?w2))[w-3]"};
         int[] at = {4, 0, 0, 0, 0, 0, 0, 0, 0, 0, 44, 36, 4, 0, 7};
@@ -524,6 +560,8 @@ public final class PromiseTest {
         due("cell", 0, s.cell(4));
         due("in one another", 3, run(s, "{(A+01[A+01?A=03]{?A=09|A+01(?k1)})A+01}"));
         due("cell", 4, s.cell(0));
+        due("behind a block with blocks in it", 1, run(s, "{((?k1)){?k2|?k3}E=08|[()]?k1|B=03|B=04}"));
+        due("cell", 3, s.cell(1));
         due("trail", 3, s.trail(1));
         dueRow(s, "what was undone is on no trail", 0, 1, 3);
         due("a refusal that no block takes", -100 - 4, run(s, "A=09[E=01?k1]"));
@@ -674,6 +712,12 @@ public final class PromiseTest {
         dueRow(s, "nth(6)", 1, 2, 3, 4, 5);
         due("nth(2)", 0, s.nth(2));
         dueRow(s, "nth(2)", 0, 1, 2, 3, 5);
+        due("nth(1)", 0, s.nth(1));
+        dueRow(s, "nth(1)", 0, 1, 2, 3, 4);
+        TrailStore all = new TrailStore();
+        due("nth(7776)", 0, all.nth(7776));
+        dueRow(all, "nth(7776)", 5, 5, 5, 5, 5);
+        s.nth(2);
         due("nth(7)", -2, s.nth(7));
         due("nth(MAX)", -2, s.nth(Integer.MAX_VALUE));
         due("nth(0)", -1, s.nth(0));
@@ -690,6 +734,7 @@ public final class PromiseTest {
         due("always of none", -2, s.always());
         dueRow(s, "always of none", 5, 0, 0, 1);
         TrailStore t = new TrailStore();
+        t.many();
         due("always of all", 0, t.always());
         dueRow(t, "always of all");
     }
@@ -711,6 +756,15 @@ public final class PromiseTest {
         dueRow(t, "the fewest values", 5, 0, 5, 7, 0, 0, 0, 0, 1);
         due("the most constraints", 1, t.search(2));
         dueRow(t, "the most constraints", 5, 0, 5, 7, 0, 0, 1, 1, 0);
+
+        TrailStore m = with("v#w,!wxy,y#z");
+        due("the most constraints, sets too", 1, m.search(2));
+        // w has 0 first, then y 1, then v and x and z
+        dueRow(m, "the most constraints, sets too", 5, 0, 5, 4 + 3 + 1 + 1 + 1, 1, 0, 2, 1, 0);
+        m.many();
+        m.search(1);
+        due("anew each time", 1, m.search(2));
+        dueRow(m, "anew each time", 5, 0, 5, 10, 1, 0, 2, 1, 0);
 
         TrailStore u = with("y#z,y#z+1,y#z-1");
         u.limits(3, 0, 1);
@@ -781,6 +835,7 @@ public final class PromiseTest {
     private static void promise37() {
         TrailStore s = with("v<w,w<x");
         s.removes(3, 3);
+        s.many();
         due("leaves", 1 + 3 + 3 + 5 + 6, s.leaves(0, 1));
         dueRow(s, "leaves", 2, 28, 56, 55, 63);
         due("it fails", -3, s.leaves(0, 4));
@@ -927,8 +982,9 @@ public final class PromiseTest {
     /** Does the same by calls, on a store of its own. */
     private static void yearsByCalls() {
         for (int seed = -50; seed <= 50; seed++) {
-            TrailStore dreams = with("v<w,!wxyz");
-            TrailStore does = with("v<w,!wxyz");
+            TrailStore dreams = yearsBegin();
+            TrailStore does = yearsBegin();
+            dreams.years(seed, 40);
             int n = 1 + Math.abs(seed) % 40;
             int[] r = {seed * 7654321};
             for (int i = 0; i < n; i++) {
@@ -937,6 +993,19 @@ public final class PromiseTest {
             due("years", does.count(0), dreams.years(seed * 7654321, n));
             dueRow(dreams, "years", does.count(4) - 10000, does.count(1), does.count(2), does.count(5));
         }
+    }
+
+    /** Levels with trails, which years may close or commit. */
+    private static TrailStore yearsBegin() {
+        TrailStore s = with("v<w,!wxyz");
+        s.opens();
+        s.sets(0, 3);
+        s.removes(2, 2);
+        s.opens();
+        s.sets(1, 4);
+        s.sets(0, 1);
+        s.puts(3, 3);
+        return s;
     }
 
     private static int draw(int[] r, int n) {
@@ -1054,6 +1123,9 @@ public final class PromiseTest {
         for (int what = 0; what < want.length; what++) {
             due("count(" + what + ")", want[what], s.count(what));
         }
+        s.fixes(0, 5);
+        s.fixes(4, 5);
+        due("count(9)", 25, s.count(9));
         due("count(10)", -100, s.count(10));
         due("count(-1)", -100, s.count(-1));
     }

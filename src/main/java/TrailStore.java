@@ -1801,7 +1801,7 @@ public final class TrailStore {
         }
 
         /** Does what stands from here to the RUN's end; false: what begins here then was refused. */
-        boolean doRun(int nested) {
+        private boolean doRun(int nested) {
             for (int n = 0; n <= MOST_SIGNS; n++) {
                 int sign = text.signAt(at);
                 if (sign == NONE || sign == '|' || isCloser(sign)) {

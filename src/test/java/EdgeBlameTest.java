@@ -182,6 +182,18 @@ public final class EdgeBlameTest {
         mends("what no spread sees", Edges.limited(Edges.with("v#w,w#x,v#x"), 0, 1), 1, 2 * 4);
         // of two that follow each other one has to go; then w is 2, x 3, y 2, z 3
         mends("VALUES that are there alone", Edges.limited(Edges.with("v<w,w<x,x<y,y<z"), 2, 3), 5, 2);
+        // v 0 alone breaks none but the last, and all else is fixed
+        TrailStore last = Edges.with("v<w,v#w-2,v<x-9");
+        last.limits(1, 1, 1);
+        last.limits(2, 0, 0);
+        last.limits(3, 0, 0);
+        last.limits(4, 0, 0);
+        mends("one SOLUTION alone without it", last, 4, 1);
+        TrailStore one = Edges.limited(Edges.with("v<w"), 2, 3);
+        one.fixes(2, 2);
+        one.fixes(3, 2);
+        one.fixes(4, 2);
+        mends("one SOLUTION, and none has to go", one, 0, 1);
         e.question(EdgeBlameTest::hopeless, "mends", 1, t -> t.mends());
         e.question(Edges::rich, "mends", 0, t -> t.mends());
     }

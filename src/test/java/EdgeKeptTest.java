@@ -262,6 +262,8 @@ public final class EdgeKeptTest {
             e.question(Edges::full, "all stays as it is", f.years(seed, 40), t -> t.years(seed, 40));
         }
 
+        putsWhatIsThere();
+
         e.says("NONE: another n.");
         for (int n : new int[] {0, -1, 41, 42, Edges.MAX, Edges.MIN}) {
             e.refused(Edges::rich, "years(1, " + n + ")", -1, t -> t.years(1, n));
@@ -282,6 +284,29 @@ public final class EdgeKeptTest {
         twice.years(-5, 3);
         twice.years(77, 40);
         e.due("R is seed at first, each time", true, first.equals(Edges.row(twice)));
+    }
+
+    /** A first act that puts the number a KEY has CHANGES nothing, so that the number that is drawn is seen in the TRAILS. */
+    private static void putsWhatIsThere() {
+        boolean[] high = new boolean[2];
+        for (int seed = 0; seed < 4000; seed++) {
+            Draws draws = new Draws(seed * 35791397);
+            if (draws.of(8) == 2) {
+                int key = draws.of(10);
+                int number = draws.of(100);
+                high[number / 50] = true;
+                TrailStore s = new TrailStore();
+                s.puts(key, number);
+                s.opens();
+                e.due("puts() of the number it has", 1, s.years(seed * 35791397, 1));
+                e.dueRow("puts() of the number it has", s, 0, 30, 1, 0);
+                s.puts(key, number + 1);
+                s.opens();
+                e.due("puts() of another number", 2, s.years(seed * 35791397, 1));
+                e.dueRow("puts() of another number", s, 0, 30, 1, 2);
+            }
+        }
+        e.due("numbers below 50 and others were among them", true, high[0] && high[1]);
     }
 
     private static void promise46() {

@@ -80,6 +80,11 @@ public final class EdgeLevelsTest {
         nextSign("!vwxyz", 1, ",");
         nextSign("!zy,", -1, "vwxyz!");
         nextSign("!zy,v<w+1,!", -1, "vwxyz");
+        nextSign("!zy,v", -1, "<=#");
+        nextSign("v<w,x=", -1, "vwyz");
+        nextSign("!zy,w#x+1,v<", -1, "wxyz");
+        nextSign("v<w,!zy,y=z-", -1, "0123456789");
+        nextSign("v<w,!z", -1, "vwxy");
         TrailStore f = Edges.rich();
         e.due("a fault behind what is none", -1 - 4, Edges.posts(f, "v<w,"));
         TrailStore same = Edges.rich();

@@ -195,6 +195,9 @@ public final class EdgeRunTest {
         }
         e.due("80 signs that end too early", -1 - 80, Edges.run(begun(), "D=01".repeat(19) + "?k0("));
         e.due("the last of 80 signs", -1 - 79, Edges.run(begun(), "D=01".repeat(19) + "?k0*"));
+        e.refused(EdgeRunTest::begun, "the last of 80, behind 79 ACTS", -1 - 79, s -> Edges.run(s, "D+01" + "p".repeat(75) + "*"));
+        e.refused(EdgeRunTest::begun, "the last of 80, behind 79 of one sign", -1 - 79, s -> Edges.run(s, "p".repeat(79) + "*"));
+        e.refused(EdgeRunTest::begun, "80 that end too early, behind 79 of one sign", -1 - 80, s -> Edges.run(s, "p".repeat(79) + "("));
     }
 
     private static void faultsOfBlocks() {

@@ -128,6 +128,9 @@ public final class EdgeSolutionsTest {
         TrailStore last = Edges.with("z=y+5,x#w");
         e.due("the last two", 24, last.always());
         e.dueRow("the last two", last, 0, 5);
+        last.fixes(2, 0);
+        e.due("once more, as x is fixed", 28, last.always());
+        e.dueRow("once more, as x is fixed", last, 0, 0, 5);
         e.question(Edges::rich, "always", 1, u -> u.always());
 
         e.says("-2: there is no SOLUTION.");
@@ -176,10 +179,38 @@ public final class EdgeSolutionsTest {
         search("z is in more, as y of it", two("y#z,x<z+9", 1, 1), 2, 1, 1, 0, 1, 2, 0, 0, 0, 1, 0);
         search("as many", two("y#z,z<x+9,y<x+9", 1, 1), 2, 1, 1, 0, 1, 2, 0, 0, 0, 0, 1);
         search("the ones that are fixed are in more", two("v#w+9,v#x+9,y#z,z#v+9", 1, 1), 2, 1, 1, 0, 1, 2, 0, 0, 0, 1, 0);
+        waysOfMost();
         // w and z are in none: the least of them comes first, behind those that are
         TrailStore t = Edges.with("x#y");
         t.fixes(0, 0);
         search("those in none at last", t, 2, 1, 4, 0, 4, 5, 0, 0, 0, 1, 0);
+    }
+
+    /** v and w are 0 or 1, the others are fixed. */
+    private static TrailStore free(String constraints) {
+        return masked(constraints, 3, 3, 8, 16, 32);
+    }
+
+    /** w and y are 0 or 1, the others are fixed. */
+    private static TrailStore between(String constraints) {
+        return masked(constraints, 32, 3, 16, 3, 8);
+    }
+
+    /** By way 2 the first, the last, those of a set and of eight count, and one that went does not. */
+    private static void waysOfMost() {
+        search("the first CONSTRAINT counts", two("z#x+9,y#z", 1, 1), 2, 1, 1, 0, 1, 2, 0, 0, 0, 1, 0);
+        search("the least of a set is in it", free("v#w,!wxy"), 2, 1, 1, 0, 1, 2, 1, 0, 3, 4, 5);
+        search("one amid a set is in it", free("v#w,!vw,!wxyz,w#z+9"), 2, 1, 1, 0, 1, 2, 1, 0, 3, 4, 5);
+        search("one above a set is not in it", between("w#y,!vx"), 2, 1, 1, 0, 1, 2, 5, 0, 4, 1, 3);
+        search("one below a set is not in it", free("v#w,!xyz,v#z+9"), 2, 1, 1, 0, 1, 2, 0, 1, 3, 4, 5);
+        search("one between those of a set is not in it", between("y#w,!vxz"), 2, 1, 1, 0, 1, 2, 5, 0, 4, 1, 3);
+        TrailStore not = two("y#z,!vw+", 1, 1);
+        search("a fault brings none", not, 2, 1, 2, 0, 2, 2, 0, 0, 0, 0, 0);
+        TrailStore gone = two("y#z,z#x+9", 1, 1);
+        gone.lifts(1);
+        search("one that went does not count", gone, 2, 1, 1, 0, 1, 2, 0, 0, 0, 0, 1);
+        search("eight of them", two("y#z,z<x+9,z<x+9,z<x+9,z<x+9,y<x+9,y<x+9,y<x+9", 1, 1), 2, 1, 1, 0, 1, 2, 0, 0, 0, 1, 0);
+        search("the eighth counts", two("y#z,y<x+9,y<x+9,z<x+9,z<x+9,v<w+9,v<w+9,z<x+9", 1, 1), 2, 1, 1, 0, 1, 2, 0, 0, 0, 1, 0);
     }
 
     private static TrailStore clash(int v, int yMask) {
@@ -248,6 +279,14 @@ public final class EdgeSolutionsTest {
         search("deepest, as they fail", clash(1, 3), 0, 0, 6, 4, 2, 6);
         TrailStore s = Edges.with("v<w,w<x,x<y,y<z");
         search("the first SPREAD changes five", s, 0, 1, 5, 0, 5, 5 + 5, 0, 1, 2, 3, 4);
+
+        TrailStore twice = clash(2, 3);
+        search("numbers of this search", twice, 0, 0, 9, 6, 2, 9);
+        search("numbers of this search, once more", twice, 0, 0, 9, 6, 2, 9);
+        search("numbers of this search, another way", twice, 1, 0, 2, 2, 1, 2);
+        twice.fixes(3, 0);
+        twice.fixes(4, 0);
+        search("numbers of this search, whose first SPREAD FAILS", twice, 1, 0, 0, 1, 0, 0);
 
         e.says("NONE: another way.");
         for (int way : new int[] {-1, 3, 4, Edges.MAX, Edges.MIN}) {

@@ -1,3 +1,6 @@
+import java.util.List;
+import java.util.function.Supplier;
+
 /** The edges that the terms name, which all promises use: limits, what is otherwise, trails, spreading, refusals. */
 public final class EdgeTermsTest {
     private static Edges e;
@@ -278,6 +281,9 @@ public final class EdgeTermsTest {
         Edges.run(s, "p");
         // y is 3, which takes 1 from z, and v, which has all again, has no 5, as w has 5 at most
         e.dueRow("told by run()", s, 2);
+        oneBehindAnother("few SOLUTIONS", EdgeTermsTest::small);
+        oneBehindAnother("none", EdgeTermsTest::smallHopeless);
+        oneBehindAnother("as much as there may be", Edges::full);
         e.says("Refused calls answer NONE, or false, and change nothing but THE TEXT, which a call that reads it empties.");
         for (String text : new String[] {"*", "v<w", "v-", "?k7", "A=01[?k7]"}) {
             e.refused(EdgeTermsTest::richWithoutText, "a refused run() of " + text, Edges.run(richWithoutText(), text), t -> Edges.run(t, text));
@@ -289,6 +295,44 @@ public final class EdgeTermsTest {
             Edges.posts(t, text);
             e.due("THE TEXT is empty", 0, t.count(8));
         }
+    }
+
+    private static final List<Edges.Call> QUESTIONS = List.of(s -> s.was(1, 0), s -> s.trail(1), s -> s.since(0), s -> s.would(0),
+            s -> s.between(1, 2), s -> s.many(), s -> s.nth(2), s -> s.always(), s -> s.search(0), s -> s.search(1),
+            s -> s.search(2), s -> s.best(), s -> s.shadows(1), s -> s.shadows(26), s -> s.probes(), s -> s.leaves(1, 4),
+            s -> s.culprits(), s -> s.why(1, 0), s -> s.mends(), s -> s.fits(), s -> s.asks(), s -> s.years(7, 40),
+            s -> s.differs(0));
+
+    /** Whichever question came ahead of it, a question answers as if none had; its ROW is its own alone, or stays. */
+    private static void oneBehindAnother(String what, Supplier<TrailStore> made) {
+        for (int a = 0; a < QUESTIONS.size(); a++) {
+            for (int b = 0; b < QUESTIONS.size(); b++) {
+                TrailStore s = made.get();
+                QUESTIONS.get(a).on(s);
+                List<Long> ahead = Edges.row(s);
+                TrailStore t = made.get();
+                long want = QUESTIONS.get(b).on(t);
+                String pair = what + ": question " + b + " behind question " + a;
+                e.due(pair, want, QUESTIONS.get(b).on(s));
+                // was(), the first of them, tells no ROW
+                boolean stays = want < 0 || b == 0;
+                e.due(pair + " has its ROW", true, Edges.row(s).equals(stays ? ahead : Edges.row(t)));
+            }
+        }
+    }
+
+    /** Few rows, so that all pairs of questions are soon asked. */
+    private static TrailStore small() {
+        TrailStore s = Edges.limited(Edges.rich(), 2, 4);
+        s.many();
+        return s;
+    }
+
+    private static TrailStore smallHopeless() {
+        TrailStore s = Edges.limited(Edges.with("v#w,w#x,v#x,y<z"), 3, 4);
+        Edges.opened(s, 2);
+        s.sets(0, 3);
+        return s;
     }
 
     private static TrailStore richWithoutText() {

@@ -1,10 +1,13 @@
 import java.lang.reflect.Executable;
 import java.lang.reflect.Field;
+import java.lang.reflect.Method;
 import java.lang.reflect.Modifier;
 import java.nio.file.Files;
 import java.nio.file.Path;
 import java.util.ArrayList;
 import java.util.List;
+import java.util.Set;
+import java.util.TreeSet;
 import java.util.regex.Matcher;
 import java.util.regex.Pattern;
 
@@ -89,11 +92,30 @@ public final class LanguageTest {
         }
     }
 
+    /** The classes inside may be asked by the same rule, so that none of their methods bears such a name either. */
+    private static void names() {
+        Set<String> face = new TreeSet<>();
+        for (Method m : TrailStore.class.getMethods()) {
+            face.add(m.getName());
+        }
+        List<Class<?>> classes = new ArrayList<>(List.of(TrailStore.class.getDeclaredClasses()));
+        classes.add(TrailStore.class);
+        for (Class<?> c : classes) {
+            for (Method m : c.getDeclaredMethods()) {
+                boolean ofFace = c == TrailStore.class && Modifier.isPublic(m.getModifiers());
+                if (!ofFace && face.contains(m.getName())) {
+                    wrong(m + " bears the name of a public one");
+                }
+            }
+        }
+    }
+
     public static void main(String[] args) throws Exception {
         List<String> lines = Files.readAllLines(Path.of(args[0], "src", "main", "java", "TrailStore.java"));
         words(lines);
         lengths(lines);
         measures();
+        names();
         System.out.println(wrong == 0 ? "no word and no measure is outside the rules" : wrong + " places are outside the rules");
         if (wrong != 0) {
             System.exit(1);

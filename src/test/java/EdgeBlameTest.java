@@ -2,23 +2,6 @@
 public final class EdgeBlameTest {
     private static Edges e;
 
-    /** It FAILS to spread: by 0 and 1 together; a ROW of six numbers. */
-    private static TrailStore hopeless() {
-        TrailStore s = new TrailStore();
-        s.best();
-        Edges.posts(s, "v<w,w<v,x#y");
-        s.opens();
-        return s;
-    }
-
-    /** There is no solution, but no spread sees it. */
-    private static TrailStore hiddenHopeless() {
-        TrailStore s = Edges.with("v#w,w#x,v#x");
-        Edges.limited(s, 0, 1);
-        s.since(0);
-        return s;
-    }
-
     private static void promise36() {
         e.promise(36);
         e.says("VALUES that are there with which alone of their VARIABLE it would FAIL to SPREAD (bits, 6 times the VARIABLE and VALUE): "
@@ -32,8 +15,8 @@ public final class EdgeBlameTest {
         TrailStore last = Edges.with("z<y");
         e.due("the last VALUE of the last VARIABLE", 1 << 18 | 1 << 29, last.probes());
         e.dueRow("two", last, 2);
-        e.question(EdgeBlameTest::hopeless, "all 30, as it FAILS with each", (1 << 30) - 1, t -> t.probes());
-        TrailStore all = hopeless();
+        e.question(Edges::hopeless, "all 30, as it FAILS with each", (1 << 30) - 1, t -> t.probes());
+        TrailStore all = Edges.hopeless();
         all.probes();
         e.dueRow("all 30", all, 30);
         TrailStore gone = Edges.with("w<v");
@@ -41,7 +24,7 @@ public final class EdgeBlameTest {
         e.due("a VALUE that is not there is none of them", 1 << 11, gone.probes());
         e.dueRow("one", gone, 1);
         // v and w share 0 and 1 with x: either of x leaves one to both; so does either of v and w
-        e.due("what no spread sees ahead of it", 3 | 3 << 6 | 3 << 12, hiddenHopeless().probes());
+        e.due("what no spread sees ahead of it", 3 | 3 << 6 | 3 << 12, Edges.hiddenHopeless().probes());
         TrailStore fixed = Edges.limited(Edges.with("v=w"), 2, 2);
         e.due("the only ones, which can be", 0, fixed.probes());
         e.question(Edges::rich, "probes", 1 << 6 | 1 << 7 | 1 << 8, t -> t.probes());
@@ -66,17 +49,17 @@ public final class EdgeBlameTest {
         e.says("-2: the VALUE is not there;");
         e.refused(Edges::rich, "leaves(4, 4)", -2, t -> t.leaves(4, 4));
         e.refused(Edges::rich, "leaves(0, 0)", -2, t -> t.leaves(0, 0));
-        e.refused(() -> Edges.limited(hopeless(), 1, 5), "one that is not there, and it would FAIL", -2, t -> t.leaves(0, 0));
+        e.refused(() -> Edges.limited(Edges.hopeless(), 1, 5), "one that is not there, and it would FAIL", -2, t -> t.leaves(0, 0));
 
         e.says("-3: it FAILS;");
         e.refused(Edges::rich, "leaves(1, 0)", -3, t -> t.leaves(1, 0));
-        e.refused(EdgeBlameTest::hopeless, "leaves(4, 5)", -3, t -> t.leaves(4, 5));
-        e.refused(EdgeBlameTest::hiddenHopeless, "leaves(2, 1)", -3, t -> t.leaves(2, 1));
+        e.refused(Edges::hopeless, "leaves(4, 5)", -3, t -> t.leaves(4, 5));
+        e.refused(Edges::hiddenHopeless, "leaves(2, 1)", -3, t -> t.leaves(2, 1));
 
         e.says("NONE: others.");
         for (int v : new int[] {-1, 6, 32, Edges.MAX, Edges.MIN}) {
             e.refused(Edges::rich, "leaves(1, " + v + ")", -1, t -> t.leaves(1, v));
-            e.refused(EdgeBlameTest::hopeless, "leaves(1, " + v + ")", -1, t -> t.leaves(1, v));
+            e.refused(Edges::hopeless, "leaves(1, " + v + ")", -1, t -> t.leaves(1, v));
         }
         for (int x : new int[] {-1, 5, 10, Edges.MAX, Edges.MIN}) {
             e.refused(Edges::rich, "leaves(" + x + ", 0)", -1, t -> t.leaves(x, 0));
@@ -102,12 +85,12 @@ public final class EdgeBlameTest {
         culprits("four together", Edges.limited(Edges.with("v<w,w<x,x<y,y<z"), 1, 4), 15);
         culprits("a set", Edges.limited(Edges.with("v#w,w#x,v#x,!vwx"), 0, 1), 8);
         culprits("all of 8", eight(), 255);
-        e.question(EdgeBlameTest::hopeless, "culprits", 3, t -> t.culprits());
+        e.question(Edges::hopeless, "culprits", 3, t -> t.culprits());
 
         e.says("-2: with all it does not FAIL.");
         e.refused(TrailStore::new, "without constraints", -2, t -> t.culprits());
         e.refused(Edges::rich, "culprits()", -2, t -> t.culprits());
-        e.refused(EdgeBlameTest::hiddenHopeless, "no SOLUTION, but no spread sees it", -2, t -> t.culprits());
+        e.refused(Edges::hiddenHopeless, "no SOLUTION, but no spread sees it", -2, t -> t.culprits());
     }
 
     /** w can be 2 alone by y, x can be 5 alone by z; then each of the other six takes one value of v. */
@@ -143,7 +126,7 @@ public final class EdgeBlameTest {
         e.says("-2: with all neither is;");
         e.refused(TrailStore::new, "without constraints", -2, t -> t.why(0, 0));
         e.refused(Edges::rich, "why(1, 3)", -2, t -> t.why(1, 3));
-        e.refused(EdgeBlameTest::hiddenHopeless, "why(0, 0)", -2, t -> t.why(0, 0));
+        e.refused(Edges::hiddenHopeless, "why(0, 0)", -2, t -> t.why(0, 0));
 
         e.says("-3: the VALUE is not there;");
         e.refused(Edges::rich, "why(4, 4)", -3, t -> t.why(4, 4));
@@ -152,11 +135,11 @@ public final class EdgeBlameTest {
         e.says("NONE: others.");
         for (int v : new int[] {-1, 6, 32, Edges.MAX, Edges.MIN}) {
             e.refused(Edges::rich, "why(1, " + v + ")", -1, t -> t.why(1, v));
-            e.refused(EdgeBlameTest::hopeless, "why(1, " + v + ")", -1, t -> t.why(1, v));
+            e.refused(Edges::hopeless, "why(1, " + v + ")", -1, t -> t.why(1, v));
         }
         for (int x : new int[] {-1, 5, 10, Edges.MAX, Edges.MIN}) {
             e.refused(Edges::rich, "why(" + x + ", 0)", -1, t -> t.why(x, 0));
-            e.refused(EdgeBlameTest::hopeless, "why(" + x + ", 0)", -1, t -> t.why(x, 0));
+            e.refused(Edges::hopeless, "why(" + x + ", 0)", -1, t -> t.why(x, 0));
         }
     }
 
@@ -194,7 +177,7 @@ public final class EdgeBlameTest {
         one.fixes(3, 2);
         one.fixes(4, 2);
         mends("one SOLUTION, and none has to go", one, 0, 1);
-        e.question(EdgeBlameTest::hopeless, "mends", 1, t -> t.mends());
+        e.question(Edges::hopeless, "mends", 1, t -> t.mends());
         e.question(Edges::rich, "mends", 0, t -> t.mends());
     }
 

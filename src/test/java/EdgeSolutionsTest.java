@@ -5,23 +5,6 @@ import java.util.List;
 public final class EdgeSolutionsTest {
     private static Edges e;
 
-    /** No solution, and the spread sees it; a ROW of six numbers. */
-    private static TrailStore hopeless() {
-        TrailStore s = new TrailStore();
-        s.best();
-        Edges.posts(s, "v<w,w<v,x#y");
-        s.opens();
-        return s;
-    }
-
-    /** No solution, though each constraint alone can hold. */
-    private static TrailStore hiddenHopeless() {
-        TrailStore s = Edges.with("v#w,w#x,v#x");
-        Edges.limited(s, 0, 1);
-        s.since(0);
-        return s;
-    }
-
     private static TrailStore fixed(String constraints, int... values) {
         TrailStore s = Edges.with(constraints);
         for (int x = 0; x < 5; x++) {
@@ -43,8 +26,8 @@ public final class EdgeSolutionsTest {
         broken.probes();
         e.due("none", 0, broken.many());
         e.dueRow("none", broken);
-        e.question(EdgeSolutionsTest::hopeless, "none", 0, s -> s.many());
-        e.question(EdgeSolutionsTest::hiddenHopeless, "none, which no spread sees", 0, s -> s.many());
+        e.question(Edges::hopeless, "none", 0, s -> s.many());
+        e.question(Edges::hiddenHopeless, "none, which no spread sees", 0, s -> s.many());
         // v 2, w above it, z not 4: 3 times 6 times the pairs y, z without y = z + 2
         e.question(Edges::rich, "many", 3 * 6 * (30 - 4), s -> s.many());
         int[] ds = {0, 1, 5, 6, 9};
@@ -97,13 +80,13 @@ public final class EdgeSolutionsTest {
         e.refused(Edges::rich, "one too many", -2, u -> u.nth(469));
         e.due("the last", 0, Edges.rich().nth(468));
         e.refused(Edges::rich, "the greatest int", -2, u -> u.nth(Edges.MAX));
-        e.refused(EdgeSolutionsTest::hopeless, "the first of none", -2, u -> u.nth(1));
-        e.refused(EdgeSolutionsTest::hiddenHopeless, "the first of none", -2, u -> u.nth(1));
+        e.refused(Edges::hopeless, "the first of none", -2, u -> u.nth(1));
+        e.refused(Edges::hiddenHopeless, "the first of none", -2, u -> u.nth(1));
 
         e.says("NONE: k below 1.");
         for (int k : new int[] {0, -1, Edges.MIN}) {
             e.refused(Edges::rich, "nth(" + k + ")", -1, u -> u.nth(k));
-            e.refused(EdgeSolutionsTest::hopeless, "nth(" + k + ") of none", -1, u -> u.nth(k));
+            e.refused(Edges::hopeless, "nth(" + k + ") of none", -1, u -> u.nth(k));
         }
     }
 
@@ -134,8 +117,8 @@ public final class EdgeSolutionsTest {
         e.question(Edges::rich, "always", 1, u -> u.always());
 
         e.says("-2: there is no SOLUTION.");
-        e.refused(EdgeSolutionsTest::hopeless, "always()", -2, u -> u.always());
-        e.refused(EdgeSolutionsTest::hiddenHopeless, "always()", -2, u -> u.always());
+        e.refused(Edges::hopeless, "always()", -2, u -> u.always());
+        e.refused(Edges::hiddenHopeless, "always()", -2, u -> u.always());
         e.refused(() -> fixed("v=w", 0, 1, 0, 0, 0), "always() of fixed ones", -2, u -> u.always());
     }
 
@@ -159,13 +142,13 @@ public final class EdgeSolutionsTest {
         for (int way = 0; way < 3; way++) {
             search("all are fixed", fixed("v<w", 0, 5, 4, 3, 2), way, 1, 0, 0, 0, 0, 0, 5, 4, 3, 2);
             search("the spread fixes all", two("y=z+5", 5, 5), way, 1, 0, 0, 0, 2, 0, 0, 0, 5, 0);
-            search("the first SPREAD FAILS", hopeless(), way, 0, 0, 1, 0, 0);
+            search("the first SPREAD FAILS", Edges.hopeless(), way, 0, 0, 1, 0, 0);
             search("all are fixed, and it FAILS", fixed("v=w", 0, 1, 0, 0, 0), way, 0, 0, 1, 0, 0);
             search("without constraints", new TrailStore(), way, 1, 5, 0, 5, 5, 0, 0, 0, 0, 0);
             search("the first SPREAD changes two", Edges.with("v<w"), way, 1, 5, 0, 5, 7, 0, 1, 0, 0, 0);
             int by = way;
             e.question(Edges::rich, "it changes nothing", 1, s -> s.search(by));
-            e.question(EdgeSolutionsTest::hiddenHopeless, "it changes nothing", 0, s -> s.search(by));
+            e.question(Edges::hiddenHopeless, "it changes nothing", 0, s -> s.search(by));
         }
         e.says("by way 0: the least; 1: one of the fewest VALUES (of as many the least); 2: one that is in the most CONSTRAINTS (of as many the least);");
         // the one that is taken first has 0, so that the other one has 1
@@ -273,7 +256,7 @@ public final class EdgeSolutionsTest {
                 + "its VARIABLE alone; of a first SPREAD that FAILS none), then, if 1, VALUES by VARIABLE.");
         search("the first SPREAD fails: none was CHANGED", Edges.with("v<w,w<v"), 0, 0, 0, 1, 0, 0);
         // node 1: v 0 leaves 1 alone to w and x, which differ: its VARIABLE alone
-        search("a node that fails", hiddenHopeless(), 0, 0, 2, 2, 1, 2);
+        search("a node that fails", Edges.hiddenHopeless(), 0, 0, 2, 2, 1, 2);
         // v, w, x, y, z: 0 takes one of four, 1 of three, 2 of two, 3 of one
         search("a node changes all that it takes from", Edges.with("!vwxyz"), 0, 1, 5, 0, 5, 5 + 4 + 3 + 2 + 1, 0, 1, 2, 3, 4);
         search("deepest, as they fail", clash(1, 3), 0, 0, 6, 4, 2, 6);
@@ -291,7 +274,7 @@ public final class EdgeSolutionsTest {
         e.says("NONE: another way.");
         for (int way : new int[] {-1, 3, 4, Edges.MAX, Edges.MIN}) {
             e.refused(Edges::rich, "search(" + way + ")", -1, t -> t.search(way));
-            e.refused(EdgeSolutionsTest::hopeless, "search(" + way + ")", -1, t -> t.search(way));
+            e.refused(Edges::hopeless, "search(" + way + ")", -1, t -> t.search(way));
         }
     }
 
@@ -332,8 +315,8 @@ public final class EdgeSolutionsTest {
         e.question(Edges::rich, "best", 3 * 6 * 26, u -> u.best());
 
         e.says("-2: there is no SOLUTION.");
-        e.refused(EdgeSolutionsTest::hopeless, "best()", -2, u -> u.best());
-        e.refused(EdgeSolutionsTest::hiddenHopeless, "best()", -2, u -> u.best());
+        e.refused(Edges::hopeless, "best()", -2, u -> u.best());
+        e.refused(Edges::hiddenHopeless, "best()", -2, u -> u.best());
     }
 
     private static void promise35() {
@@ -367,16 +350,16 @@ public final class EdgeSolutionsTest {
         TrailStore five = fixed("", 5, 5, 5, 5, 5);
         e.due("one row", 1, five.shadows(28));
         e.dueRow("one row", five, 1, 5, 5, 5);
-        TrailStore none = hopeless();
+        TrailStore none = Edges.hopeless();
         e.due("none", 0, none.shadows(7));
         e.dueRow("none", none);
-        e.question(EdgeSolutionsTest::hopeless, "none", 0, u -> u.shadows(1));
+        e.question(Edges::hopeless, "none", 0, u -> u.shadows(1));
         e.question(Edges::rich, "shadows(2)", 3, u -> u.shadows(2));
 
         e.says("NONE: other sets.");
         for (int set : new int[] {0, 15, 23, 27, 29, 30, 31, 32, 33, 39, 64, -1, -32, Edges.MAX, Edges.MIN, Edges.MIN + 1}) {
             e.refused(Edges::rich, "shadows(" + set + ")", -1, u -> u.shadows(set));
-            e.refused(EdgeSolutionsTest::hopeless, "shadows(" + set + ")", -1, u -> u.shadows(set));
+            e.refused(Edges::hopeless, "shadows(" + set + ")", -1, u -> u.shadows(set));
         }
     }
 

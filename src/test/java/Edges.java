@@ -226,6 +226,22 @@ final class Edges {
         return s;
     }
 
+    /** It FAILS to spread, by 0 and 1 together, so that there is no solution; a ROW of six numbers. */
+    static TrailStore hopeless() {
+        TrailStore s = new TrailStore();
+        s.best();
+        posts(s, "v<w,w<v,x#y");
+        s.opens();
+        return s;
+    }
+
+    /** There is no solution, though each constraint alone can hold, and no spread sees it. */
+    static TrailStore hiddenHopeless() {
+        TrailStore s = limited(with("v#w,w#x,v#x"), 0, 1);
+        s.since(0);
+        return s;
+    }
+
     /** Something of each sort, two levels with trails, a text and a ROW. */
     static TrailStore rich() {
         TrailStore s = with("v<w,!wxy,y#z+2");

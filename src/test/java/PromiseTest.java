@@ -41,37 +41,18 @@ public final class PromiseTest {
         }
     }
 
-    private static TrailStore write(TrailStore s, String text) {
-        s.end(0);
-        for (int i = 0; i < text.length(); i += 4) {
-            int v = 0;
-            for (int j = i; j < i + 4; j++) {
-                v = v << 8 | (j < text.length() ? text.charAt(j) : 0);
-            }
-            s.sign(v);
-        }
-        s.end(text.length());
-        return s;
-    }
-
     private static int run(TrailStore s, String text) {
-        return write(s, text).run();
+        return Edges.run(s, text);
     }
 
     private static int posts(TrailStore s, String text) {
-        return write(s, text).posts();
+        return Edges.posts(s, text);
     }
 
     private static TrailStore with(String constraints) {
         TrailStore s = new TrailStore();
         due("posts of " + constraints, constraints.isEmpty() ? 0 : constraints.split(",").length, posts(s, constraints));
         return s;
-    }
-
-    private static void limitAll(TrailStore s, int low, int high) {
-        for (int x = 0; x < 5; x++) {
-            s.limits(x, low, high);
-        }
     }
 
     private static void promise1() {
@@ -390,7 +371,7 @@ public final class PromiseTest {
         due("three can't have two", -2, u.spreads());
 
         TrailStore w = with("!vwxyz");
-        limitAll(w, 0, 4);
+        Edges.limited(w, 0, 4);
         due("five of five", 0, w.spreads());
         w.removes(0, 0);
         w.removes(1, 0);
@@ -741,7 +722,7 @@ public final class PromiseTest {
 
     private static void promise33() {
         TrailStore s = with("v#w,w#x,v#x");
-        limitAll(s, 0, 1);
+        Edges.limited(s, 0, 1);
         due("three of two", 0, s.search(0));
         dueRow(s, "three of two", 2, 2, 1, 2);
         due("nothing changes", 10, s.count(1));

@@ -149,6 +149,11 @@ public final class Mutants {
             Collections.sort(tests);
         }
         Path work = Files.createTempDirectory("mutants");
-        new Mutants(root, work, tests, wanted).go();
+        Mutants mutants = new Mutants(root, work, tests, wanted);
+        mutants.go();
+        // what is told of the last command may not stand in what it deletes
+        Path log = Files.createTempFile("mutants", "log");
+        mutants.command(log, 60, "rm", "-rf", work.toString());
+        Files.delete(log);
     }
 }

@@ -1,4 +1,5 @@
 import java.io.IOException;
+import java.nio.file.FileVisitOption;
 import java.nio.file.Files;
 import java.nio.file.Path;
 import java.util.ArrayList;
@@ -26,9 +27,9 @@ public final class ReadmeTest {
     }
 
     private static void copy(Path from, Path to) throws IOException {
-        try (Stream<Path> all = Files.walk(from)) {
+        try (Stream<Path> all = Files.walk(from.toRealPath(), FileVisitOption.FOLLOW_LINKS)) {
             for (Path one : (Iterable<Path>) all::iterator) {
-                Path target = to.resolve(from.relativize(one).toString());
+                Path target = to.resolve(from.toRealPath().relativize(one).toString());
                 if (Files.isDirectory(one)) {
                     Files.createDirectories(target);
                 } else {
